@@ -593,6 +593,10 @@ public final class MatchBook {
             }
         }
 
+        int villageOf(int person) {
+            return houses.village[persons.house[person]];
+        }
+
         Text customOf(int house) {
             return texts[houses.village[house]];
         }
@@ -993,7 +997,8 @@ public final class MatchBook {
         private static final int WORD = 1;
         private static final int NUMBER = 2;
         private static final int SIGN = 3;
-        private static final int STRANGE = 4;
+        private static final int BLANK = 4;
+        private static final int STRANGE = 5;
         private static final int DIGITS = 4;
 
         private final Book book;
@@ -1202,52 +1207,47 @@ public final class MatchBook {
         }
 
         private void advance() {
-            while (next < book.tapeLength && isBlank(book.tape[next])) {
+            while (next < book.tapeLength && kindOf(book.tape[next]) == BLANK) {
                 next++;
             }
             place = next;
-            if (next >= book.tapeLength) {
-                token = END;
-            } else if (isLetter(book.tape[next])) {
-                advanceWord();
-            } else if (isDigit(book.tape[next])) {
-                advanceNumber();
-            } else {
-                token = isOneByteSign(book.tape[next]) ? SIGN : STRANGE;
+            token = END;
+            if (next < book.tapeLength) {
+                token = kindOf(book.tape[next]);
                 next++;
+            }
+            if (token == WORD || token == NUMBER) {
+                while (next < book.tapeLength && kindOf(book.tape[next]) == token) {
+                    next++;
+                }
+            }
+            if (token == NUMBER) {
+                measure();
             }
         }
 
-        private void advanceWord() {
-            token = WORD;
-            while (next < book.tapeLength && isLetter(book.tape[next])) {
-                next++;
-            }
-        }
-
-        private void advanceNumber() {
+        private void measure() {
             worth = 0;
-            while (next < book.tapeLength && isDigit(book.tape[next])) {
-                worth = worth * 10 + (book.tape[next] - '0');
-                next++;
+            for (int at = place; at < next; at++) {
+                worth = worth * 10 + (book.tape[at] - '0');
             }
-            token = next - place <= DIGITS ? NUMBER : STRANGE;
+            if (next - place > DIGITS) {
+                token = STRANGE;
+            }
         }
 
-        private static boolean isBlank(byte sign) {
-            return sign == 10 || sign == 32;
-        }
-
-        private static boolean isLetter(byte sign) {
-            return sign >= 'a' && sign <= 'z';
-        }
-
-        private static boolean isDigit(byte sign) {
-            return sign >= '0' && sign <= '9';
-        }
-
-        private static boolean isOneByteSign(byte sign) {
-            return sign == ':' || sign == ';' || sign == '<' || sign == '>' || sign == '=';
+        /** Which kind of token has such a byte. */
+        private static int kindOf(byte sign) {
+            if (sign >= 'a' && sign <= 'z') {
+                return WORD;
+            }
+            if (sign >= '0' && sign <= '9') {
+                return NUMBER;
+            }
+            if (sign == ':' || sign == ';' || sign == '<' || sign == '>' || sign == '=') {
+                return SIGN;
+            }
+            return sign == ' ' || sign == '\n' ? BLANK : STRANGE;
         }
     }
 
@@ -1320,7 +1320,7 @@ public final class MatchBook {
             clearRow(parents, table, TABLE);
             News news = book.news;
             for (int k = 0; k < news.count; k++) {
-                int heardYear = news.yearIn(k, village);
+                int heardYear = news.heardIn[k * VILLAGES + village];
                 if (heardYear != NONE && heardYear <= year) {
                     int parent = news.parent[k];
                     parents[table + news.child[k] * PARENTS + book.persons.kind[parent]] = parent;
@@ -1499,8 +1499,7 @@ public final class MatchBook {
             face(isBride ? person : other, isBride ? other : person);
             facts[RICH] = book.houses.coins[persons.house[other]];
             if (wish.asksKin()) {
-                int village = book.houses.village[persons.house[person]];
-                facts[KIN] = kinship.steps(bride, groom, village, book.year);
+                facts[KIN] = kinship.steps(bride, groom, book.villageOf(person), book.year);
             }
             int liking = 0;
             for (int line = 0; line < wish.lines; line++) {
@@ -1516,17 +1515,18 @@ public final class MatchBook {
             if (!matches.standsAs(match, WED)) {
                 return false;
             }
+            Text hers = matches.herText[match];
+            Text his = matches.hisText[match];
+            if (hers == null || his == null) {
+                return false;
+            }
             bride = matches.bride[match];
             groom = matches.groom[match];
             System.arraycopy(matches.facts, match * SUBJECTS, facts, 0, SUBJECTS);
-            return isBarredBy(matches.herText[match], bride) || isBarredBy(matches.hisText[match], groom);
-        }
-
-        private boolean isBarredBy(Text custom, int person) {
-            if (custom == null) {
-                return false;
+            readBy(hers, book.villageOf(bride));
+            if (why == NONE) {
+                readBy(his, book.villageOf(groom));
             }
-            readBy(custom, book.houses.village[book.persons.house[person]]);
             return why != NONE;
         }
 
