@@ -696,6 +696,7 @@ public final class MatchBook {
         final int[] open = new int[PERSONS];
         final boolean[] alive = new boolean[PERSONS];
         final boolean[] widow = new boolean[PERSONS];
+        /** Of brides alone: nobody asks it of grooms. */
         final boolean[] wasWed = new boolean[PERSONS];
 
         boolean has(int person) {
@@ -732,7 +733,6 @@ public final class MatchBook {
             spouse[groom] = bride;
             widow[bride] = false;
             wasWed[bride] = true;
-            wasWed[groom] = true;
         }
 
         void bury(int person) {

@@ -5,10 +5,12 @@ public final class ModelTest {
     private static final Check check = new Check("ModelTest");
     private static final int CALLS = 512;
 
-    /** What runs are about: everything; free persons; news behind weddings; open matches. */
+    /** What runs are about: everything (0); free persons; news behind weddings; open matches. */
     private static final int FREE = 1;
     private static final int LATE = 2;
     private static final int OPEN = 3;
+    /** Two books in turn, by images. */
+    private static final int TIMES = 4;
 
     private final Random random;
     private final MatchBook book = new MatchBook();
@@ -22,7 +24,7 @@ public final class ModelTest {
         this.run = run;
         random = new Random(7919L * run + 3);
         wideness = run % 3;
-        mode = run / 3 % 4;
+        mode = run / 3 % 5;
     }
 
     public static void main(String[] args) {
@@ -117,6 +119,28 @@ public final class ModelTest {
     }
 
     private void play() {
+        if (mode == TIMES) {
+            call("image", 0);
+            setUp();
+            steps(60);
+            call("image", 1);
+            call("again", 0);
+        }
+        setUp();
+        if (mode == TIMES) {
+            steps(60);
+            call("image", 2);
+        }
+        steps(CALLS);
+    }
+
+    private void steps(int n) {
+        for (int k = 0; k < n && calls < CALLS && check.wrong() < 5; k++) {
+            step();
+        }
+    }
+
+    private void setUp() {
         int houses = 2 + some(7);
         for (int k = 0; k < houses; k++) {
             call("house", near(6), near(5), some(8) == 0 ? some(100002) : some(300));
@@ -133,9 +157,6 @@ public final class ModelTest {
         }
         for (int k = mode == LATE ? some(8) : some(30); k > 0; k--) {
             newParent();
-        }
-        while (calls < CALLS && check.wrong() < 5) {
-            step();
         }
     }
 
@@ -171,9 +192,17 @@ public final class ModelTest {
             else if (luck < 8) call("match", aMatch(2), 8);
             else if (luck < 9) call("year");
             else call("wed", aMatch(1));
-        } else {
+        } else if (mode == OPEN) {
             if (luck < 6) call("parts", near(3));
             else askSomeone();
+        } else {
+            if (luck < 1) call("again", 1 + some(2));
+            else if (luck < 4) call("tell", near(persons), near(10));
+            else if (luck < 5) call("about", near(book.count(0)), near(5));
+            else if (luck < 7) call("match", near(book.count(4)), near(9));
+            else if (luck < 8) call("kin", near(persons), near(persons), near(2), book.count(3));
+            else if (luck < 9) call("late", near(2));
+            else newParent();
         }
     }
 
@@ -209,7 +238,7 @@ public final class ModelTest {
         else if (luck < 86) call("ring", near(2));
         else if (luck < 90) call("ringed", near(4), near(3));
         else if (luck < 94) call("count", near(12));
-        else if (luck < 95) call("image", near(3));
+        else if (luck < 95) call("image", mode == TIMES ? 3 : near(3));
         else if (luck < 96) call("again", near(3));
         else if (luck < 97) call("fault", near(2));
         else if (luck < 98) newPerson();
@@ -307,7 +336,7 @@ public final class ModelTest {
         int whose = near(7);
         StringBuilder text = new StringBuilder();
         int lines = some(25) == 0 ? 14 + some(6) : some(6);
-        if (mode == LATE && whose < 5) {
+        if ((mode == LATE || mode == TIMES) && whose < 5) {
             if (some(3) == 0) text.append("if ").append(aTest()).append(" and kin<").append(2 + some(5)).append(":bar;");
             else text.append("if kin<").append(2 + some(5)).append(":bar;");
         }

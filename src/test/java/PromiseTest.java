@@ -53,6 +53,8 @@ public final class PromiseTest {
         count();
         image();
         again();
+        againToAnother();
+        againAndNew();
         check.finish();
     }
 
@@ -562,6 +564,11 @@ public final class PromiseTest {
         faultIs(0, "if clan bar;", 1, 8);
         faultIs(0, "if clan:if home:bar;", 1, 8);
         faultIs(0, "if moon:bar;", 1, 3);
+        faultIs(0, "barz;", 1, 0);
+        faultIs(0, "abar;", 1, 0);
+        faultIs(0, "car;", 1, 0);
+        faultIs(0, "if bar;?", 1, 3);
+        faultIs(0, "gift 90000;", 1, 5);
         faultIs(0, "back 101;", 2, 5);
         faultIs(0, "bar;back 0101;back 999;", 2, 9);
         faultIs(0, "back 101;bar", 1, 12);
@@ -947,6 +954,7 @@ public final class PromiseTest {
         due("27 not by the texts of now", x.late(0), -1);
         x.parent(0, 2, 0);
         x.parent(1, 2, 0);
+        due("27 another couple is read in between", x.read(2, 1, 0, 0), 0);
         due("27 by text, flags and facts of its day", x.late(0), 0);
         x.image(1);
         x.parent(1, 2, 0);
@@ -1281,5 +1289,128 @@ public final class PromiseTest {
         due("36 the tape", x.text(4), 2);
         due("36 again again", x.again(1), true);
         due("36 the tape again", x.end(11), 11);
+    }
+
+    /** Two books with nothing alike, in turn. */
+    private static MatchBook fill(MatchBook x, int by) {
+        for (int h = 0; h < 4; h++) {
+            x.house((h + by) % 6, (h + by) % 5, 1000 + 100 * by + h);
+        }
+        for (int p = 0; p < 8; p++) {
+            x.person((p + by) % 4, (p / 2 + by) % 2, (p + by) % 8, -40 + p + by);
+        }
+        text(x, by % 5, "gift " + (10 * by + 10) + ";back " + (20 + by) + ";if bride<50 and kin<9:bar;");
+        years(x, by);
+        for (int b = 0; b < 8; b++) {
+            for (int g = 0; g < 8; g++) {
+                int m = x.ask(b, g);
+                x.promise(m);
+                if (m == by) {
+                    x.wed(m);
+                }
+            }
+        }
+        x.parent(7 - by, by, by);
+        return x;
+    }
+
+    private static int[] seen(MatchBook x) {
+        int[] row = new int[200];
+        int n = 0;
+        for (int h = 0; h < 4; h++) {
+            for (int what = 0; what < 5; what++) row[n++] = x.about(h, what);
+        }
+        for (int p = 0; p < 8; p++) {
+            for (int what = 0; what < 10; what++) row[n++] = x.tell(p, what);
+        }
+        for (int m = 0; m < 4; m++) {
+            for (int what = 0; what < 9; what++) row[n++] = x.match(m, what);
+        }
+        for (int what = 0; what < 12; what++) row[n++] = x.count(what);
+        for (int v = 0; v < 5; v++) {
+            row[n++] = x.heard(0, v);
+            row[n++] = x.kin(7, 0, v, 300);
+            row[n++] = x.kin(6, 1, v, 300);
+        }
+        return row;
+    }
+
+    private static void againToAnother() {
+        int[][] want = {seen(fill(new MatchBook(), 0)), seen(fill(new MatchBook(), 1))};
+        MatchBook x = new MatchBook();
+        x.image(2);
+        fill(x, 0);
+        x.image(0);
+        x.again(2);
+        fill(x, 1);
+        x.image(1);
+        for (int turn = 0; turn < 4; turn++) {
+            x.again(turn % 2);
+            int[] got = seen(x);
+            for (int k = 0; k < got.length; k++) {
+                due("36 turn " + turn + ", number " + k, got[k], want[turn % 2][k]);
+            }
+        }
+        x.again(2);
+        due("36 nothing", x.count(0), 0);
+        // kin that was heard before is not heard any more
+        MatchBook y = family();
+        y.image(0);
+        y.parent(2, 0, 0);
+        due("36 kin", y.kin(2, 0, 0, 0), 1);
+        y.again(0);
+        due("36 no kin", y.kin(2, 0, 0, 0), 99);
+        // a wedding's day goes with the image
+        MatchBook z = couple();
+        z.person(0, 0, 0, -20);
+        z.person(1, 1, 0, -30);
+        z.person(0, 0, 0, -60);
+        z.image(0);
+        text(z, 0, "if age=25 and kin<3:bar;");
+        z.ask(0, 1);
+        z.promise(0);
+        z.wed(0);
+        z.image(1);
+        z.again(0);
+        text(z, 0, "if age=99:bar;");
+        z.ask(2, 3);
+        z.promise(0);
+        z.wed(0);
+        z.again(1);
+        z.parent(0, 4, 0);
+        z.parent(1, 4, 0);
+        due("36 late by its day", z.late(0), 0);
+    }
+
+    /** What comes new behind again() has nothing of what stood there. */
+    private static void againAndNew() {
+        MatchBook x = new MatchBook();
+        x.house(0, 0, 100);
+        x.image(0);
+        x.house(0, 1, 100);
+        x.feud(0, 1, true);
+        x.person(0, 0, 0, 0);
+        x.person(1, 1, 0, 0);
+        x.person(0, 0, 0, 0);
+        text(x, 0, "gift 10;");
+        x.ask(0, 1);
+        x.promise(0);
+        x.wed(0);
+        x.feud(0, 1, true);
+        x.die(1);
+        x.again(0);
+        x.house(0, 1, 100);
+        due("36 no feud", x.about(1, 3), 0);
+        x.person(0, 0, 0, 0);
+        x.person(1, 1, 0, 0);
+        x.person(0, 0, 0, 0);
+        due("36 no widow", x.tell(0, 7), 0);
+        due("36 alive", x.tell(1, 5), 1);
+        due("36 free", x.tell(0, 9), 1);
+        due("36 never wed: an elder", holds(x, 2, 1, "elder"), 1);
+        text(x, 0, "");
+        x.ask(0, 1);
+        due("36 nothing paid", x.match(0, 5), 0);
+        due("36 no gift", x.match(0, 3), 0);
     }
 }
