@@ -54,6 +54,7 @@ public final class PromiseTest {
         image();
         again();
         againToAnother();
+        againToHisDay();
         againAndNew();
         check.finish();
     }
@@ -1002,6 +1003,17 @@ public final class PromiseTest {
         y.ask(0, 1);
         y.ask(2, 3);
         due("28 not in one house", y.parts(0), -1);
+        MatchBook z = houses(4);
+        z.person(0, 1, 0, 0);
+        z.person(1, 0, 0, 0);
+        z.person(2, 1, 1, 0);
+        z.person(3, 0, 1, 0);
+        text(z, 5, "if star=0:more 5;");
+        text(z, 6, "if star=0:more 5;");
+        z.ask(1, 2);
+        z.ask(3, 0);
+        due("28 groom 0", z.parts(0), 100);
+        due("28 and the other two", z.parts(1), 302);
     }
 
     private static void best() {
@@ -1380,6 +1392,34 @@ public final class PromiseTest {
         z.parent(0, 4, 0);
         z.parent(1, 4, 0);
         due("36 late by its day", z.late(0), 0);
+    }
+
+    private static void againToHisDay() {
+        MatchBook x = couple();
+        x.person(0, 0, 0, -20);
+        x.person(1, 1, 0, -30);
+        x.person(0, 0, 0, -60);
+        x.image(0);
+        text(x, 1, "if kin<3:bar;");
+        x.ask(0, 1);
+        x.promise(0);
+        x.wed(0);
+        x.image(1);
+        x.die(1);
+        x.image(2);
+        due("36 widow", x.tell(0, 7), 1);
+        x.again(0);
+        due("36 no widow yet", x.tell(0, 7), 0);
+        x.again(2);
+        due("36 widow again", x.tell(0, 7), 1);
+        x.again(0);
+        x.ask(2, 3);
+        x.promise(0);
+        x.wed(0);
+        x.again(1);
+        x.parent(0, 4, 1);
+        x.parent(1, 4, 1);
+        due("36 late by his text", x.late(0), 0);
     }
 
     /** What comes new behind again() has nothing of what stood there. */
