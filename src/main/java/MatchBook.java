@@ -1569,6 +1569,7 @@ public final class MatchBook {
         final boolean[] may = new boolean[SIDE * SIDE];
         final int[] gifts = new int[SIDE * SIDE];
         private final boolean[] feuds = new boolean[SIDE * SIDE];
+        private final int[] coupleWorths = new int[SIDE * SIDE];
         private final int[] herLiking = new int[SIDE * SIDE];
         private final int[] hisLiking = new int[SIDE * SIDE];
         private final boolean[] asked = new boolean[SIDE * SIDE];
@@ -1591,6 +1592,7 @@ public final class MatchBook {
                     may[place] = judge.letsWed(brides[bride], grooms[groom]);
                     gifts[place] = judge.coupleGift;
                     feuds[place] = judge.facts[FEUD] == 1;
+                    coupleWorths[place] = WEDDING_WORTH - gifts[place] + (feuds[place] ? FEUD_WORTH : 0);
                 }
             }
         }
@@ -1614,7 +1616,10 @@ public final class MatchBook {
             }
             for (int bride = brideCount - 1; bride >= 0; bride--) {
                 for (int taken = 0; taken < sets; taken++) {
-                    worths[(bride << SIDE) + taken] = mostWorth(bride, taken);
+                    // The brides ahead of her take no more grooms than they are.
+                    if (Integer.bitCount(taken) <= bride) {
+                        worths[(bride << SIDE) + taken] = mostWorth(bride, taken);
+                    }
                 }
             }
             int taken = 0;
@@ -1629,7 +1634,7 @@ public final class MatchBook {
         private int mostWorth(int bride, int taken) {
             int most = worths[(bride + 1 << SIDE) + taken];
             for (int groom = 0; groom < groomCount; groom++) {
-                if (isOpenTo(bride, groom, taken)) {
+                if (may[bride * SIDE + groom] && (taken >> groom & 1) == 0) {
                     most = Math.max(most, worthWith(bride, groom, taken));
                 }
             }
@@ -1638,7 +1643,7 @@ public final class MatchBook {
 
         private int leastChoice(int bride, int taken) {
             for (int groom = 0; groom < groomCount; groom++) {
-                if (isOpenTo(bride, groom, taken)
+                if (may[bride * SIDE + groom] && (taken >> groom & 1) == 0
                         && worthWith(bride, groom, taken) == worths[(bride << SIDE) + taken]) {
                     return groom;
                 }
@@ -1646,14 +1651,8 @@ public final class MatchBook {
             return NONE;
         }
 
-        private boolean isOpenTo(int bride, int groom, int taken) {
-            return (taken >> groom & 1) == 0 && may[bride * SIDE + groom];
-        }
-
         private int worthWith(int bride, int groom, int taken) {
-            int place = bride * SIDE + groom;
-            int worth = WEDDING_WORTH - gifts[place] + (feuds[place] ? FEUD_WORTH : 0);
-            return worth + worths[(bride + 1 << SIDE) + (taken | 1 << groom)];
+            return coupleWorths[bride * SIDE + groom] + worths[(bride + 1 << SIDE) + (taken | 1 << groom)];
         }
 
         int weddings() {
