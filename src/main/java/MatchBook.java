@@ -111,6 +111,7 @@ public final class MatchBook {
             return false;
         }
         book.news.setRoad(a, b, years);
+        kinship.forget();
         return true;
     }
 
@@ -242,6 +243,8 @@ public final class MatchBook {
 
     public int text(int whose) {
         if (!within(whose, 0, TEXTS - 1)) {
+            // The tape is taken all the same: only that no text is read.
+            book.tapeLength = 0;
             book.fault = 0;
             book.faultPlace = NONE;
             return -2;
@@ -793,29 +796,60 @@ public final class MatchBook {
         }
     }
 
-    /** The roads, and what was told of parents; a news goes by the roads of the day it is told. */
+    /** The roads, and what was told of parents; all news, old ones too, go by the roads of now. */
     private static final class News {
         int count;
         final int[] child = new int[NEWS];
         final int[] parent = new int[NEWS];
-        final int[] heardIn = new int[NEWS * VILLAGES];
-        final int[] roads = new int[VILLAGES * VILLAGES];
+        final int[] toldAt = new int[NEWS];
+        final int[] toldIn = new int[NEWS];
+        private final int[] roads = new int[VILLAGES * VILLAGES];
+        /** The years that the shortest way takes from village to village; NONE: there is no way. */
+        private final int[] ways = new int[VILLAGES * VILLAGES];
 
         News() {
             Arrays.fill(roads, NONE);
+            for (int village = 0; village < VILLAGES; village++) {
+                roads[village * VILLAGES + village] = 0;
+            }
+            copy(roads, ways);
         }
 
         void setRoad(int a, int b, int years) {
             roads[a * VILLAGES + b] = years;
             roads[b * VILLAGES + a] = years;
+            copy(roads, ways);
+            for (int by = 0; by < VILLAGES; by++) {
+                shortenWays(by);
+            }
+        }
+
+        private void shortenWays(int by) {
+            for (int from = 0; from < VILLAGES; from++) {
+                int there = ways[from * VILLAGES + by];
+                for (int to = 0; to < VILLAGES && there != NONE; to++) {
+                    int onward = ways[by * VILLAGES + to];
+                    if (onward != NONE) {
+                        shorten(from * VILLAGES + to, there + onward);
+                    }
+                }
+            }
+        }
+
+        private void shorten(int way, int years) {
+            if (ways[way] == NONE || ways[way] > years) {
+                ways[way] = years;
+            }
         }
 
         boolean has(int k) {
             return k >= 0 && k < count;
         }
 
+        /** The year in which a news is heard in a village; NONE: never. */
         int yearIn(int k, int village) {
-            return heardIn[k * VILLAGES + village];
+            int years = ways[toldAt[k] * VILLAGES + village];
+            return years == NONE ? NONE : toldIn[k] + years;
         }
 
         int add(int itsChild, int itsParent, int village, int year) {
@@ -824,40 +858,20 @@ public final class MatchBook {
             }
             child[count] = itsChild;
             parent[count] = itsParent;
-            int row = count * VILLAGES;
-            clearRow(heardIn, row, VILLAGES);
-            heardIn[row + village] = year;
-            // A shortest way has fewer roads than there are villages.
-            for (int roadsTaken = 1; roadsTaken < VILLAGES; roadsTaken++) {
-                spread(row);
-            }
+            toldAt[count] = village;
+            toldIn[count] = year;
             count++;
             return count - 1;
-        }
-
-        private void spread(int row) {
-            for (int from = 0; from < VILLAGES; from++) {
-                for (int to = 0; to < VILLAGES; to++) {
-                    int years = roads[from * VILLAGES + to];
-                    if (years != NONE && heardIn[row + from] != NONE) {
-                        hasten(row + to, heardIn[row + from] + years);
-                    }
-                }
-            }
-        }
-
-        private void hasten(int place, int year) {
-            if (heardIn[place] == NONE || heardIn[place] > year) {
-                heardIn[place] = year;
-            }
         }
 
         void takeFrom(News other) {
             count = other.count;
             copy(other.child, child);
             copy(other.parent, parent);
-            copy(other.heardIn, heardIn);
+            copy(other.toldAt, toldAt);
+            copy(other.toldIn, toldIn);
             copy(other.roads, roads);
+            copy(other.ways, ways);
         }
     }
 
@@ -1273,7 +1287,7 @@ public final class MatchBook {
             Arrays.fill(filledFor, NONE);
         }
 
-        /** To be called when news come or go. */
+        /** To be called when news come or go, or roads change. */
         void forget() {
             Arrays.fill(filledFor, NONE);
         }
@@ -1320,7 +1334,7 @@ public final class MatchBook {
             clearRow(parents, table, TABLE);
             News news = book.news;
             for (int k = 0; k < news.count; k++) {
-                int heardYear = news.heardIn[k * VILLAGES + village];
+                int heardYear = news.yearIn(k, village);
                 if (heardYear != NONE && heardYear <= year) {
                     int parent = news.parent[k];
                     parents[table + news.child[k] * PARENTS + book.persons.kind[parent]] = parent;

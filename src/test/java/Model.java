@@ -30,8 +30,7 @@ final class Model {
     }
 
     private static final class Tiding {
-        int child, parent;
-        Integer[] heard = new Integer[5];
+        int child, parent, village, year;
     }
 
     private static final class Test {
@@ -126,8 +125,7 @@ final class Model {
             case "feud": return feud(a);
             case "harvest": return harvest(a);
             case "parent": return parent(a);
-            case "heard": return in(a[0], news) && a[1] >= 0 && a[1] < 5 && news.get(a[0]).heard[a[1]] != null
-                    ? news.get(a[0]).heard[a[1]] : -1;
+            case "heard": return in(a[0], news) && among(a[1], 0, 4) ? heard(news.get(a[0]), a[1]) : -1;
             case "die": return die(a[0]);
             case "year": return year == 300 ? -1 : ++year;
             case "kin": return kinAsked(a) ? kin(a[0], a[1], a[2], a[3]) : -1;
@@ -221,20 +219,32 @@ final class Model {
         Tiding t = new Tiding();
         t.child = a[0];
         t.parent = a[1];
-        walk(t, a[2], year, new HashSet<>());
+        t.village = a[2];
+        t.year = year;
         news.add(t);
         return news.size() - 1;
     }
 
-    private void walk(Tiding t, int village, int when, Set<Integer> seen) {
-        if (t.heard[village] == null || t.heard[village] > when) t.heard[village] = when;
-        seen.add(village);
+    /** The year by the roads as they are at the moment of the question; -1: never. */
+    private int heard(Tiding t, int village) {
+        int way = fewest(t.village, village, new HashSet<>());
+        return way == -1 ? -1 : t.year + way;
+    }
+
+    /** The fewest years from one village to another, by trying all ways; -1: there is none. */
+    private int fewest(int from, int to, Set<Integer> seen) {
+        if (from == to) return 0;
+        int least = -1;
+        seen.add(from);
         for (int next = 0; next < 5; next++) {
-            if (!seen.contains(next) && roads.containsKey(Set.of(village, next))) {
-                walk(t, next, when + roads.get(Set.of(village, next)), seen);
+            if (!seen.contains(next) && roads.containsKey(Set.of(from, next))) {
+                int rest = fewest(next, to, seen);
+                int whole = roads.get(Set.of(from, next)) + rest;
+                if (rest != -1 && (least == -1 || whole < least)) least = whole;
             }
         }
-        seen.remove(village);
+        seen.remove(from);
+        return least;
     }
 
     private long die(int p) {
@@ -264,7 +274,8 @@ final class Model {
         Integer mother = null;
         Integer father = null;
         for (Tiding t : news) {
-            if (t.child == child && t.heard[village] != null && t.heard[village] <= by) {
+            int when = t.child == child ? heard(t, village) : -1;
+            if (when != -1 && when <= by) {
                 if (persons.get(t.parent).kind == 0) mother = t.parent;
                 else father = t.parent;
             }
@@ -400,9 +411,9 @@ final class Model {
     private long text(int whose) {
         fault = 0;
         place = -1;
-        if (!among(whose, 0, 6)) return -2;
         String all = tape.toString();
         tape.setLength(0);
+        if (!among(whose, 0, 6)) return -2;
         Set<String> acts = whose < 5 ? Set.of("bar", "gift", "back") : Set.of("more", "less");
         List<Line> lines = new ArrayList<>();
         List<int[]> later = new ArrayList<>();

@@ -186,7 +186,8 @@ public final class ModelTest {
             else if (luck < 9) call("breaks", near(book.count(4)), 0);
             else call("feud", near(book.count(0)), near(book.count(0)), 1);
         } else if (mode == LATE) {
-            if (luck < 3) newParent();
+            if (luck < 2) newParent();
+            else if (luck < 3) newRoad();
             else if (luck < 5) call("late", near(3));
             else if (luck < 6) call("count", 11);
             else if (luck < 8) call("match", aMatch(2), 8);
@@ -213,7 +214,7 @@ public final class ModelTest {
         if (mode != 0 && some(2) == 0) special();
         else if (luck < 3) newText();
         else if (luck < 5) call("year");
-        else if (luck < 6) call("road", near(5), near(5), some(12) - 2);
+        else if (luck < 7) newRoad();
         else if (luck < 9) call("feud", near(book.count(0)), near(book.count(0)), some(4) == 0 ? 0 : 1);
         else if (luck < 10) call("harvest", near(book.count(0)), some(12) == 0 ? near(100001) : some(200));
         else if (luck < 14) newParent();
@@ -243,7 +244,13 @@ public final class ModelTest {
         else if (luck < 97) call("fault", near(2));
         else if (luck < 98) newPerson();
         else if (luck < 99) call("house", near(6), near(5), some(500));
-        else call("end", near(30));
+        else if (some(2) == 0) call("end", near(30));
+        else call("feed", random.nextInt(), 0x6261723b, 0x20202020, 0x6261723b, random.nextInt());
+    }
+
+    /** Roads come, change and go while news are on their way. */
+    private void newRoad() {
+        call("road", near(5), near(5), some(3) == 0 ? -1 : some(12) - 2);
     }
 
     private int nearYear() {
@@ -367,7 +374,8 @@ public final class ModelTest {
     }
 
     private void feed(String text) {
-        call("end", 0);
+        // Mostly the tape is empty; what another text left there would be seen.
+        if (some(2) == 0) call("end", 0);
         for (int at = 0; at < text.length(); at += 20) {
             int[] five = new int[5];
             for (int k = 0; k < 20; k++) {

@@ -19,9 +19,13 @@ public final class PromiseTest {
         harvest();
         parent();
         heard();
+        heardByRoadsOfNow();
+        longWay();
         die();
         year();
         kin();
+        kinByRoadsOfNow();
+        customsByRoadsOfNow();
         chain();
         chainTies();
         tell();
@@ -164,9 +168,14 @@ public final class PromiseTest {
         due("4 changed", x.road(1, 0, 4), true);
         x.parent(0, 1, 1);
         due("4 the new years", x.heard(1, 0), 4);
+        due("4 of older news, too", x.heard(0, 0), 4);
+        due("4 none such changes nothing", x.road(0, 1, 10), false);
+        due("4 as before", x.heard(1, 0), 4);
         due("4 gone", x.road(0, 1, -1), true);
         x.parent(0, 1, 1);
         due("4 no road any more", x.heard(2, 0), -1);
+        due("4 nor for older news", x.heard(0, 0), -1);
+        due("4 the other road stays", x.heard(0, 2), 0);
     }
 
     private static void feud() {
@@ -244,6 +253,56 @@ public final class PromiseTest {
         due("8 news -1", x.heard(-1, 0), -1);
         due("8 village 5", x.heard(0, 5), -1);
         due("8 village -1", x.heard(0, -1), -1);
+    }
+
+    private static void heardByRoadsOfNow() {
+        MatchBook x = houses(1);
+        x.person(0, 0, 0, -40);
+        x.person(0, 0, 0, -20);
+        years(x, 3);
+        x.parent(1, 0, 2);
+        due("8 no road yet", x.heard(0, 3), -1);
+        years(x, 4);
+        x.parent(1, 0, 2);
+        x.road(2, 3, 0);
+        due("8 a road came later", x.heard(0, 3), 3);
+        due("8 each from its own year on", x.heard(1, 3), 7);
+        x.road(3, 4, 9);
+        due("8 and a second one", x.heard(0, 4), 12);
+        x.road(2, 4, 5);
+        due("8 a shorter way came", x.heard(0, 4), 8);
+        x.road(2, 4, 9);
+        x.road(3, 4, 8);
+        due("8 roads changed", x.heard(0, 4), 11);
+        x.road(2, 3, -1);
+        due("8 a road went: by the other one", x.heard(0, 4), 12);
+        due("8 a road went: the long way round", x.heard(0, 3), 20);
+        x.road(4, 2, -1);
+        due("8 no way any more", x.heard(0, 4), -1);
+        due("8 nor there", x.heard(0, 3), -1);
+        due("8 in its own still", x.heard(0, 2), 3);
+        x.image(0);
+        x.road(2, 0, 1);
+        due("8 another one", x.heard(0, 0), 4);
+        x.again(0);
+        due("8 not in the image", x.heard(0, 0), -1);
+        x.road(0, 1, 1);
+        due("8 nor with a road elsewhere", x.heard(0, 1), -1);
+    }
+
+    private static void longWay() {
+        MatchBook x = houses(1);
+        x.person(0, 0, 0, -40);
+        x.person(0, 0, 0, -20);
+        x.parent(1, 0, 4);
+        x.road(0, 3, 9);
+        x.road(2, 4, 9);
+        x.road(1, 2, 9);
+        x.road(3, 1, 9);
+        due("8 four roads", x.heard(0, 0), 36);
+        due("8 three roads", x.heard(0, 3), 27);
+        due("8 two roads", x.heard(0, 1), 18);
+        due("8 one road", x.heard(0, 2), 9);
     }
 
     private static void die() {
@@ -335,6 +394,64 @@ public final class PromiseTest {
         x.parent(4, 1, 0);
         due("11 a father beside", x.kin(4, 1, 0, 1), 1);
         due("11 and the mother", x.kin(4, 0, 0, 1), 1);
+    }
+
+    private static void kinByRoadsOfNow() {
+        MatchBook x = family();
+        x.parent(2, 0, 0);
+        x.parent(3, 0, 1);
+        due("11 no road yet", x.kin(2, 3, 0, 300), 99);
+        x.road(0, 1, 4);
+        due("11 by the road, not heard yet", x.kin(2, 3, 0, 3), 99);
+        due("11 by the road", x.kin(2, 3, 0, 4), 2);
+        due("12 by the road", x.chain(2, 3, 0, 4, 1), 0);
+        x.road(0, 1, 0);
+        due("11 the road is shorter", x.kin(2, 3, 0, 0), 2);
+        due("12 the road is shorter", x.chain(2, 3, 0, 0, 2), 3);
+        x.road(1, 0, -1);
+        due("11 the road is gone", x.kin(2, 3, 0, 0), 99);
+        due("12 the road is gone", x.chain(2, 3, 0, 0, 0), -1);
+        due("11 nor in 1", x.kin(2, 3, 1, 300), 99);
+        due("11 of its own still", x.kin(3, 0, 1, 0), 1);
+    }
+
+    private static void customsByRoadsOfNow() {
+        MatchBook x = houses(3);
+        x.person(0, 0, 0, -20);
+        x.person(1, 1, 0, -20);
+        x.person(2, 0, 0, -60);
+        text(x, 0, "if kin<3:bar;");
+        text(x, 5, "if kin=2:more 5;");
+        x.parent(0, 2, 3);
+        x.parent(1, 2, 3);
+        due("20 nothing is heard", x.may(0, 1), true);
+        due("21 nothing is heard", x.liking(0, 1), 0);
+        x.road(3, 0, 0);
+        due("20 by the road", x.may(0, 1), false);
+        due("19 by the road", x.read(0, 1, 0, 1), 0);
+        due("21 by the road", x.liking(0, 1), 5);
+        due("22 by the road", x.ask(0, 1), -1);
+        due("30 by the road", x.bestFor(1), 2);
+        due("31 by the road", x.stable(1), 2);
+        x.road(3, 0, 1);
+        due("20 by a longer road", x.may(0, 1), true);
+        due("30 by a longer road", x.bestFor(1), 0);
+        due("31 by a longer road", x.stable(1), 0);
+        due("22 by a longer road", x.ask(0, 1), 0);
+        x.promise(0);
+        x.road(0, 3, 0);
+        due("24 they may no more", x.wed(0), false);
+        x.road(0, 3, -1);
+        due("24 they may again", x.wed(0), true);
+        due("27 not late", x.late(0), -1);
+        x.road(0, 3, 0);
+        due("27 late by the road of now", x.late(0), 0);
+        due("26 late by the road of now", x.match(0, 8), 1);
+        due("34 late by the road of now", x.count(11), 1);
+        x.road(0, 3, -1);
+        due("27 late no more", x.late(0), -1);
+        due("26 late no more", x.match(0, 8), 0);
+        due("34 late no more", x.count(11), 0);
     }
 
     private static void chainIs(MatchBook x, int a, int b, int... row) {
@@ -515,9 +632,16 @@ public final class PromiseTest {
         due("17 for another one", x.text(7), -2);
         due("17 fault 0", x.fault(0), 0);
         due("17 its place", x.fault(1), -1);
-        due("17 the tape is not taken", x.end(4), 4);
+        due("17 the tape is taken for another one, too", x.end(1), -1);
+        Check.write(x, "bar");
         due("17 for -1", x.text(-1), -2);
-        due("17 then for 2", x.text(2), 1);
+        due("17 no text is read: fault 0", x.fault(0), 0);
+        due("17 it begins anew", x.feed(0, 0, 0, 0, 0), 20);
+        x.end(0);
+        due("17 an empty one for another one", x.text(-1), -2);
+        due("17 then for 2", text(x, 2, "bar;"), 1);
+        due("17 for the greatest number", x.text(Integer.MAX_VALUE), -2);
+        due("17 the text of 2 stays", x.read(0, 1, 2, 0), 1);
         due("17 sixteen", text(x, 3, "bar;".repeat(16)), 16);
         due("17 four tests", text(x, 3, "if clan and clan and not clan and clan:bar;"), 1);
         due("17 a long one", text(x, 3, " ".repeat(496) + "bar;"), 1);
