@@ -63,29 +63,6 @@ public final class PromiseTest {
         check.finish();
     }
 
-    /** Houses 0 .. n-1, of clan and village as their number goes, with 1000 coins each. */
-    private static MatchBook houses(int n) {
-        MatchBook x = new MatchBook();
-        for (int h = 0; h < n; h++) {
-            x.house(h % 6, h % 5, 1000);
-        }
-        return x;
-    }
-
-    /** Bride 0 of house 0, groom 1 of house 1. */
-    private static MatchBook couple() {
-        MatchBook x = houses(2);
-        x.person(0, 0, 0, -20);
-        x.person(1, 1, 0, -25);
-        return x;
-    }
-
-    private static void years(MatchBook x, int n) {
-        for (int k = 0; k < n; k++) {
-            x.year();
-        }
-    }
-
     private static void newObject() {
         MatchBook x = new MatchBook();
         for (int what = 0; what <= 11; what++) {
@@ -132,7 +109,7 @@ public final class PromiseTest {
     }
 
     private static void person() {
-        MatchBook x = houses(2);
+        MatchBook x = Given.houses(2);
         due("3 first", x.person(0, 0, 0, -80), 0);
         due("3 second", x.person(1, 1, 7, 0), 1);
         due("3 too early", x.person(0, 0, 0, -81), -1);
@@ -153,7 +130,7 @@ public final class PromiseTest {
     }
 
     private static void road() {
-        MatchBook x = couple();
+        MatchBook x = Given.couple();
         due("4 road", x.road(0, 1, 9), true);
         due("4 zero years", x.road(1, 2, 0), true);
         due("4 none where none is", x.road(3, 4, -1), true);
@@ -179,7 +156,7 @@ public final class PromiseTest {
     }
 
     private static void feud() {
-        MatchBook x = houses(3);
+        MatchBook x = Given.houses(3);
         due("5 begins", x.feud(0, 2, true), true);
         due("5 is so", x.feud(2, 0, true), false);
         due("5 other", x.feud(1, 2, true), true);
@@ -197,7 +174,7 @@ public final class PromiseTest {
     }
 
     private static void harvest() {
-        MatchBook x = houses(1);
+        MatchBook x = Given.houses(1);
         due("6 one", x.harvest(0, 1), 1001);
         due("6 most", x.harvest(0, 100000), 101001);
         due("6 zero", x.harvest(0, 0), -1);
@@ -209,7 +186,7 @@ public final class PromiseTest {
     }
 
     private static void parent() {
-        MatchBook x = houses(1);
+        MatchBook x = Given.houses(1);
         x.person(0, 0, 0, -40);
         x.person(0, 0, 0, -20);
         x.person(0, 1, 0, -20);
@@ -234,16 +211,16 @@ public final class PromiseTest {
     }
 
     private static void heard() {
-        MatchBook x = houses(1);
+        MatchBook x = Given.houses(1);
         x.person(0, 0, 0, -40);
         x.person(0, 0, 0, -20);
         x.road(0, 1, 9);
         x.road(0, 2, 3);
         x.road(2, 3, 2);
         x.road(3, 1, 1);
-        years(x, 7);
+        Given.years(x, 7);
         due("8 news", x.parent(1, 0, 0), 0);
-        years(x, 5);
+        Given.years(x, 5);
         due("8 its own", x.heard(0, 0), 7);
         due("8 a way round", x.heard(0, 1), 13);
         due("8 one road", x.heard(0, 2), 10);
@@ -256,13 +233,13 @@ public final class PromiseTest {
     }
 
     private static void heardByRoadsOfNow() {
-        MatchBook x = houses(1);
+        MatchBook x = Given.houses(1);
         x.person(0, 0, 0, -40);
         x.person(0, 0, 0, -20);
-        years(x, 3);
+        Given.years(x, 3);
         x.parent(1, 0, 2);
         due("8 no road yet", x.heard(0, 3), -1);
-        years(x, 4);
+        Given.years(x, 4);
         x.parent(1, 0, 2);
         x.road(2, 3, 0);
         due("8 a road came later", x.heard(0, 3), 3);
@@ -291,7 +268,7 @@ public final class PromiseTest {
     }
 
     private static void longWay() {
-        MatchBook x = houses(1);
+        MatchBook x = Given.houses(1);
         x.person(0, 0, 0, -40);
         x.person(0, 0, 0, -20);
         x.parent(1, 0, 4);
@@ -306,7 +283,7 @@ public final class PromiseTest {
     }
 
     private static void die() {
-        MatchBook x = couple();
+        MatchBook x = Given.couple();
         x.person(0, 0, 0, -30);
         x.person(1, 1, 0, -30);
         due("9 nobody", x.die(4), false);
@@ -350,21 +327,8 @@ public final class PromiseTest {
         due("10 stays", x.count(3), 300);
     }
 
-    /** Grandparents 0, 1; their children 2, 3; 4 of 2; 5 of 3; 6 nobody's. */
-    private static MatchBook family() {
-        MatchBook x = houses(3);
-        x.person(0, 0, 0, -80);
-        x.person(0, 1, 0, -80);
-        x.person(0, 0, 0, -60);
-        x.person(1, 1, 0, -60);
-        x.person(0, 0, 0, -40);
-        x.person(1, 1, 0, -40);
-        x.person(2, 1, 0, -40);
-        return x;
-    }
-
     private static void kin() {
-        MatchBook x = family();
+        MatchBook x = Given.family();
         x.road(0, 1, 2);
         x.parent(2, 0, 0);
         x.parent(3, 0, 0);
@@ -397,7 +361,7 @@ public final class PromiseTest {
     }
 
     private static void kinByRoadsOfNow() {
-        MatchBook x = family();
+        MatchBook x = Given.family();
         x.parent(2, 0, 0);
         x.parent(3, 0, 1);
         due("11 no road yet", x.kin(2, 3, 0, 300), 99);
@@ -416,12 +380,12 @@ public final class PromiseTest {
     }
 
     private static void customsByRoadsOfNow() {
-        MatchBook x = houses(3);
+        MatchBook x = Given.houses(3);
         x.person(0, 0, 0, -20);
         x.person(1, 1, 0, -20);
         x.person(2, 0, 0, -60);
-        text(x, 0, "if kin<3:bar;");
-        text(x, 5, "if kin=2:more 5;");
+        Given.text(x, 0, "if kin<3:bar;");
+        Given.text(x, 5, "if kin=2:more 5;");
         x.parent(0, 2, 3);
         x.parent(1, 2, 3);
         due("20 nothing is heard", x.may(0, 1), true);
@@ -463,7 +427,7 @@ public final class PromiseTest {
     }
 
     private static void chain() {
-        MatchBook x = family();
+        MatchBook x = Given.family();
         x.parent(2, 1, 0);
         x.parent(3, 1, 0);
         x.parent(4, 2, 0);
@@ -486,7 +450,7 @@ public final class PromiseTest {
     }
 
     private static void chainTies() {
-        MatchBook x = houses(1);
+        MatchBook x = Given.houses(1);
         // 0 and 1 the forebears, 2 bride, 3 groom, 4 child of both, 5 another child of them, below 2 or 3.
         x.person(0, 0, 0, -80);
         x.person(0, 1, 0, -80);
@@ -504,7 +468,7 @@ public final class PromiseTest {
         x.parent(5, 3, 0);
         chainIs(x, 4, 5, 4, 2, 5);
         // 6: two steps above 7 and one above 8, and 9 the other way about; the fewer steps up go first.
-        MatchBook y = houses(1);
+        MatchBook y = Given.houses(1);
         y.person(0, 0, 0, -80);
         y.person(0, 1, 0, -80);
         y.person(0, 0, 0, -60);
@@ -523,10 +487,10 @@ public final class PromiseTest {
     }
 
     private static void tell() {
-        MatchBook x = houses(2);
+        MatchBook x = Given.houses(2);
         x.person(1, 0, 5, -7);
         x.person(0, 1, 2, -1);
-        years(x, 3);
+        Given.years(x, 3);
         due("13 house", x.tell(0, 0), 1);
         due("13 bride", x.tell(0, 1), 0);
         due("13 groom", x.tell(1, 1), 1);
@@ -606,26 +570,22 @@ public final class PromiseTest {
         due("16 two lines", x.text(0), 2);
     }
 
-    private static int text(MatchBook x, int whose, String text) {
-        return Check.text(x, whose, text);
-    }
-
     private static void text() {
-        MatchBook x = couple();
-        due("17 a line", text(x, 0, "bar;"), 1);
+        MatchBook x = Given.couple();
+        due("17 a line", Given.text(x, 0, "bar;"), 1);
         due("17 the tape is empty", x.end(1), -1);
         due("17 it is read", x.may(0, 1), false);
-        due("17 nothing", text(x, 0, ""), 0);
+        due("17 nothing", Given.text(x, 0, ""), 0);
         due("17 the new one is read", x.may(0, 1), true);
-        due("17 blanks", text(x, 4, " \n\n "), 0);
-        due("17 no blanks", text(x, 1, "if not clan and star<1 and kin>3:gift 7;bar;back 100;"), 3);
-        due("17 many blanks", text(x, 1, "\nif \n not clan  and star < 1 : gift 7 ; "), 1);
-        due("17 words end at digits", text(x, 1, "gift7;back8;"), 2);
-        due("17 more", text(x, 5, "more 3;if widow:less 0004;"), 2);
-        due("17 of grooms", text(x, 6, "less 9999;"), 1);
-        due("17 all subjects", text(x, 0, "if clan and home and feud and widow:bar;if elder and star=1 and kin=1 and age=1:bar;"
+        due("17 blanks", Given.text(x, 4, " \n\n "), 0);
+        due("17 no blanks", Given.text(x, 1, "if not clan and star<1 and kin>3:gift 7;bar;back 100;"), 3);
+        due("17 many blanks", Given.text(x, 1, "\nif \n not clan  and star < 1 : gift 7 ; "), 1);
+        due("17 words end at digits", Given.text(x, 1, "gift7;back8;"), 2);
+        due("17 more", Given.text(x, 5, "more 3;if widow:less 0004;"), 2);
+        due("17 of grooms", Given.text(x, 6, "less 9999;"), 1);
+        due("17 all subjects", Given.text(x, 0, "if clan and home and feud and widow:bar;if elder and star=1 and kin=1 and age=1:bar;"
                 + "if bride=1 and gap=1 and rich=1:bar;"), 3);
-        due("17 a fault", text(x, 0, "bar"), -1);
+        due("17 a fault", Given.text(x, 0, "bar"), -1);
         due("17 the tape is taken", x.end(1), -1);
         due("17 the old one stays", x.read(0, 1, 0, 0), 0);
         Check.write(x, "bar;");
@@ -639,22 +599,22 @@ public final class PromiseTest {
         due("17 it begins anew", x.feed(0, 0, 0, 0, 0), 20);
         x.end(0);
         due("17 an empty one for another one", x.text(-1), -2);
-        due("17 then for 2", text(x, 2, "bar;"), 1);
+        due("17 then for 2", Given.text(x, 2, "bar;"), 1);
         due("17 for the greatest number", x.text(Integer.MAX_VALUE), -2);
         due("17 the text of 2 stays", x.read(0, 1, 2, 0), 1);
-        due("17 sixteen", text(x, 3, "bar;".repeat(16)), 16);
-        due("17 four tests", text(x, 3, "if clan and clan and not clan and clan:bar;"), 1);
-        due("17 a long one", text(x, 3, " ".repeat(496) + "bar;"), 1);
+        due("17 sixteen", Given.text(x, 3, "bar;".repeat(16)), 16);
+        due("17 four tests", Given.text(x, 3, "if clan and clan and not clan and clan:bar;"), 1);
+        due("17 a long one", Given.text(x, 3, " ".repeat(496) + "bar;"), 1);
     }
 
     private static void faultIs(int whose, String text, int fault, int place) {
         MatchBook x = new MatchBook();
-        due("18 text " + text, text(x, whose, text), -1);
+        due("18 text " + text, Given.text(x, whose, text), -1);
         due("18 fault " + text, x.fault(0), fault);
         due("18 place " + text, x.fault(1), place);
         due("18 what 2", x.fault(2), -1);
         due("18 what -1", x.fault(-1), -1);
-        text(x, whose, "");
+        Given.text(x, whose, "");
         due("18 none then", x.fault(0), 0);
         due("18 no place then", x.fault(1), -1);
     }
@@ -706,13 +666,13 @@ public final class PromiseTest {
         faultIs(0, "if clan and clan and clan and clan and not clan:back 101;", 3, 39);
         faultIs(0, "if clan and clan and clan and clan and clan and clan:bar", 1, 56);
         MatchBook x = new MatchBook();
-        due("18 back 100", text(x, 0, "back 100;"), 1);
-        due("18 a back above 100 is for back alone", text(x, 0, "gift 101;if rich>101:bar;"), 2);
+        due("18 back 100", Given.text(x, 0, "back 100;"), 1);
+        due("18 a back above 100 is for back alone", Given.text(x, 0, "gift 101;if rich>101:bar;"), 2);
     }
 
     private static void read() {
-        MatchBook x = couple();
-        text(x, 0, "gift 5;back 10;bar;if clan:bar;if not clan:bar;gift 9999;back 20;");
+        MatchBook x = Given.couple();
+        Given.text(x, 0, "gift 5;back 10;bar;if clan:bar;if not clan:bar;gift 9999;back 20;");
         due("19 barred", x.read(0, 1, 0, 0), 1);
         due("19 why", x.read(0, 1, 0, 1), 2);
         due("19 gift", x.read(0, 1, 0, 2), 10004);
@@ -732,14 +692,8 @@ public final class PromiseTest {
         due("19 of one house", x.read(0, 2, 0, 1), 2);
         x.die(0);
         due("19 of the dead", x.read(0, 1, 0, 2), 10004);
-        text(x, 1, "if clan:bar;if not clan:bar;");
+        Given.text(x, 1, "if clan:bar;if not clan:bar;");
         due("19 why behind one that does not hold", x.read(0, 1, 1, 1), 1);
-    }
-
-    /** 1 if a custom with that test alone bars bride and groom. */
-    private static int holds(MatchBook x, int bride, int groom, String test) {
-        text(x, 0, "if " + test + ":bar;");
-        return x.read(bride, groom, 0, 0);
     }
 
     private static void readFlags() {
@@ -752,31 +706,31 @@ public final class PromiseTest {
         x.person(0, 0, 0, -31);
         x.person(1, 1, 0, -30);
         x.person(2, 1, 0, -30);
-        due("19 clan", holds(x, 0, 3, "clan"), 1);
-        due("19 other clan", holds(x, 0, 4, "clan"), 0);
-        due("19 home", holds(x, 0, 4, "home"), 1);
-        due("19 other home", holds(x, 0, 3, "home"), 0);
-        due("19 not home", holds(x, 0, 3, "not home"), 1);
-        due("19 no feud", holds(x, 0, 3, "feud"), 0);
+        due("19 clan", Given.holds(x, 0, 3, "clan"), 1);
+        due("19 other clan", Given.holds(x, 0, 4, "clan"), 0);
+        due("19 home", Given.holds(x, 0, 4, "home"), 1);
+        due("19 other home", Given.holds(x, 0, 3, "home"), 0);
+        due("19 not home", Given.holds(x, 0, 3, "not home"), 1);
+        due("19 no feud", Given.holds(x, 0, 3, "feud"), 0);
         x.feud(0, 1, true);
-        due("19 feud", holds(x, 0, 3, "feud"), 1);
-        due("19 feud with another", holds(x, 0, 4, "feud"), 0);
-        due("19 elder by birth", holds(x, 0, 3, "elder"), 1);
-        due("19 none elder", holds(x, 2, 3, "elder"), 0);
+        due("19 feud", Given.holds(x, 0, 3, "feud"), 1);
+        due("19 feud with another", Given.holds(x, 0, 4, "feud"), 0);
+        due("19 elder by birth", Given.holds(x, 0, 3, "elder"), 1);
+        due("19 none elder", Given.holds(x, 2, 3, "elder"), 0);
         x.die(2);
-        due("19 the elder died", holds(x, 0, 3, "elder"), 0);
-        due("19 elder by number", holds(x, 1, 3, "elder"), 1);
-        text(x, 0, "");
+        due("19 the elder died", Given.holds(x, 0, 3, "elder"), 0);
+        due("19 elder by number", Given.holds(x, 1, 3, "elder"), 1);
+        Given.text(x, 0, "");
         x.ask(0, 4);
         x.promise(0);
         x.wed(0);
-        due("19 the elder is wed", holds(x, 1, 3, "elder"), 0);
-        due("19 no widow", holds(x, 0, 3, "widow"), 0);
+        due("19 the elder is wed", Given.holds(x, 1, 3, "elder"), 0);
+        due("19 no widow", Given.holds(x, 0, 3, "widow"), 0);
         x.die(4);
-        due("19 the elder was wed", holds(x, 1, 3, "elder"), 0);
-        due("19 widow", holds(x, 0, 3, "widow"), 1);
-        due("19 all tests must hold", holds(x, 0, 3, "widow and clan and not home and feud"), 1);
-        due("19 one does not", holds(x, 0, 3, "widow and clan and home and feud"), 0);
+        due("19 the elder was wed", Given.holds(x, 1, 3, "elder"), 0);
+        due("19 widow", Given.holds(x, 0, 3, "widow"), 1);
+        due("19 all tests must hold", Given.holds(x, 0, 3, "widow and clan and not home and feud"), 1);
+        due("19 one does not", Given.holds(x, 0, 3, "widow and clan and home and feud"), 0);
     }
 
     private static void readFacts() {
@@ -787,62 +741,62 @@ public final class PromiseTest {
         x.person(1, 1, 6, -50);
         x.person(1, 1, 5, 0);
         x.person(0, 0, 1, -80);
-        years(x, 2);
-        due("19 star", holds(x, 0, 1, "star=3"), 1);
-        due("19 star, half round", holds(x, 0, 2, "star=4"), 1);
-        due("19 star of one", holds(x, 0, 1, "not star=3"), 0);
-        due("19 age", holds(x, 0, 1, "age=52"), 1);
-        due("19 age <", holds(x, 0, 1, "age<52"), 0);
-        due("19 age <", holds(x, 0, 1, "age<53"), 1);
-        due("19 age >", holds(x, 0, 1, "age>52"), 0);
-        due("19 age >", holds(x, 0, 1, "age>51"), 1);
-        due("19 bride", holds(x, 0, 1, "bride=22"), 1);
-        due("19 gap", holds(x, 0, 1, "gap=30"), 1);
-        due("19 gap, she is older", holds(x, 0, 2, "gap=20"), 1);
-        due("19 rich", holds(x, 0, 1, "rich=20"), 1);
+        Given.years(x, 2);
+        due("19 star", Given.holds(x, 0, 1, "star=3"), 1);
+        due("19 star, half round", Given.holds(x, 0, 2, "star=4"), 1);
+        due("19 star of one", Given.holds(x, 0, 1, "not star=3"), 0);
+        due("19 age", Given.holds(x, 0, 1, "age=52"), 1);
+        due("19 age <", Given.holds(x, 0, 1, "age<52"), 0);
+        due("19 age <", Given.holds(x, 0, 1, "age<53"), 1);
+        due("19 age >", Given.holds(x, 0, 1, "age>52"), 0);
+        due("19 age >", Given.holds(x, 0, 1, "age>51"), 1);
+        due("19 bride", Given.holds(x, 0, 1, "bride=22"), 1);
+        due("19 gap", Given.holds(x, 0, 1, "gap=30"), 1);
+        due("19 gap, she is older", Given.holds(x, 0, 2, "gap=20"), 1);
+        due("19 rich", Given.holds(x, 0, 1, "rich=20"), 1);
         x.harvest(1, 9979);
-        due("19 rich then", holds(x, 0, 1, "rich=9999"), 1);
-        due("19 no kin", holds(x, 0, 1, "kin=99"), 1);
+        due("19 rich then", Given.holds(x, 0, 1, "rich=9999"), 1);
+        due("19 no kin", Given.holds(x, 0, 1, "kin=99"), 1);
         x.road(3, 0, 4);
         x.parent(0, 3, 0);
         x.parent(1, 3, 3);
-        due("19 kin not heard yet", holds(x, 0, 1, "kin=99"), 1);
-        years(x, 3);
-        due("19 kin not heard still", holds(x, 0, 1, "kin<99"), 0);
+        due("19 kin not heard yet", Given.holds(x, 0, 1, "kin=99"), 1);
+        Given.years(x, 3);
+        due("19 kin not heard still", Given.holds(x, 0, 1, "kin<99"), 0);
         x.year();
-        due("19 kin heard", holds(x, 0, 1, "kin=2"), 1);
-        text(x, 3, "if kin<99:bar;");
+        due("19 kin heard", Given.holds(x, 0, 1, "kin=2"), 1);
+        Given.text(x, 3, "if kin<99:bar;");
         due("19 kin not heard in 3: of the bride", x.read(0, 1, 3, 0), 1);
-        text(x, 4, "if kin<99:bar;");
+        Given.text(x, 4, "if kin<99:bar;");
         due("19 kin never heard in 4", x.read(0, 1, 4, 0), 0);
     }
 
     private static void may() {
-        MatchBook x = couple();
+        MatchBook x = Given.couple();
         due("20 may", x.may(0, 1), true);
         due("20 the other way about", x.may(1, 0), false);
         due("20 nobody", x.may(0, 2), false);
         due("20 bride -1", x.may(-1, 1), false);
         x.person(0, 1, 0, 0);
         due("20 of one house", x.may(0, 2), false);
-        text(x, 0, "if age>24:bar;");
+        Given.text(x, 0, "if age>24:bar;");
         due("20 her custom", x.may(0, 1), false);
-        text(x, 0, "if age>25:bar;");
+        Given.text(x, 0, "if age>25:bar;");
         due("20 her custom lets them", x.may(0, 1), true);
-        text(x, 1, "bar;");
+        Given.text(x, 1, "bar;");
         due("20 his custom", x.may(0, 1), false);
-        text(x, 1, "");
-        text(x, 2, "bar;");
+        Given.text(x, 1, "");
+        Given.text(x, 2, "bar;");
         due("20 a third village's custom", x.may(0, 1), true);
         x.die(0);
         due("20 of the dead", x.may(0, 1), true);
     }
 
     private static void liking() {
-        MatchBook x = couple();
+        MatchBook x = Given.couple();
         x.harvest(0, 500);
-        text(x, 5, "more 10;if rich=1000:more 5;if age=25 and bride=20:less 100;if clan:less 7;");
-        text(x, 6, "if rich=1500:more 9999;more 9999;if age=20:less 1;if bride=20:less 2;if age=25:more 3;");
+        Given.text(x, 5, "more 10;if rich=1000:more 5;if age=25 and bride=20:less 100;if clan:less 7;");
+        Given.text(x, 6, "if rich=1500:more 9999;more 9999;if age=20:less 1;if bride=20:less 2;if age=25:more 3;");
         due("21 hers", x.liking(0, 1), -85);
         due("21 his", x.liking(1, 0), 9999 + 9999 - 2 + 3);
         x.person(0, 0, 0, 0);
@@ -856,18 +810,18 @@ public final class PromiseTest {
         x.parent(0, 4, 0);
         x.parent(1, 4, 1);
         x.parent(0, 4, 1);
-        text(x, 5, "if kin=2:more 1;");
-        text(x, 6, "if kin=2:more 1;");
+        Given.text(x, 5, "if kin=2:more 1;");
+        Given.text(x, 6, "if kin=2:more 1;");
         due("21 kin as heard in her village", x.liking(0, 1), 0);
         due("21 kin as heard in his village", x.liking(1, 0), 1);
     }
 
     private static void ask() {
-        MatchBook x = couple();
+        MatchBook x = Given.couple();
         x.person(0, 0, 0, -20);
         x.person(1, 1, 0, -20);
-        text(x, 0, "gift 31;back 40;if bride=21:gift 1;");
-        text(x, 1, "gift 21;back 50;");
+        Given.text(x, 0, "gift 31;back 40;if bride=21:gift 1;");
+        Given.text(x, 1, "gift 21;back 50;");
         due("22 the other way about", x.ask(1, 0), -1);
         due("22 nobody", x.ask(0, 9), -1);
         due("22 bride -1", x.ask(-1, 1), -1);
@@ -880,22 +834,22 @@ public final class PromiseTest {
         due("22 he is not free", x.ask(2, 1), -1);
         x.year();
         due("22 gift of then", x.match(0, 3), 31);
-        text(x, 1, "gift 51;back 50;");
+        Given.text(x, 1, "gift 51;back 50;");
         due("22 asked, too", x.ask(2, 3), 1);
         due("22 the greater gift", x.match(1, 3), 51);
         due("22 her back", x.match(1, 4), 40);
         due("22 year", x.match(1, 6), 1);
         x.breaks(0, true);
-        text(x, 1, "bar;");
+        Given.text(x, 1, "bar;");
         due("22 they may not", x.ask(0, 1), -1);
-        text(x, 1, "");
+        Given.text(x, 1, "");
         for (int k = 2; k < 30; k++) {
             due("22 more", x.ask(0, 1), k);
             x.breaks(k, k % 2 == 0);
         }
         due("22 a 31st", x.ask(0, 1), -1);
         due("22 how many", x.count(4), 30);
-        MatchBook y = couple();
+        MatchBook y = Given.couple();
         y.die(1);
         due("22 of the dead", y.ask(0, 1), -1);
     }
@@ -906,7 +860,7 @@ public final class PromiseTest {
         x.house(0, 1, 15);
         x.person(0, 0, 0, 0);
         x.person(1, 1, 0, 0);
-        text(x, 0, "gift 33;");
+        Given.text(x, 0, "gift 33;");
         due("23 none", x.promise(0), false);
         due("23 match -1", x.promise(-1), false);
         x.ask(0, 1);
@@ -914,7 +868,7 @@ public final class PromiseTest {
         due("23 still asked", x.match(0, 2), 0);
         x.harvest(1, 1);
         x.year();
-        text(x, 0, "gift 99;bar;");
+        Given.text(x, 0, "gift 99;bar;");
         due("23 promised", x.promise(0), true);
         due("23 stands", x.match(0, 2), 1);
         due("23 since", x.match(0, 7), 1);
@@ -931,7 +885,7 @@ public final class PromiseTest {
         x.house(0, 1, 32);
         x.person(0, 0, 0, 0);
         x.person(1, 1, 0, 0);
-        text(x, 0, "gift 33;");
+        Given.text(x, 0, "gift 33;");
         due("24 none", x.wed(0), false);
         due("24 match -1", x.wed(-1), false);
         x.feud(0, 1, true);
@@ -941,10 +895,10 @@ public final class PromiseTest {
         due("24 too few", x.wed(0), false);
         due("24 nothing was paid", x.about(1, 2), 16);
         x.harvest(1, 1);
-        text(x, 1, "bar;");
+        Given.text(x, 1, "bar;");
         due("24 they may not", x.wed(0), false);
-        text(x, 1, "");
-        text(x, 0, "gift 9000;");
+        Given.text(x, 1, "");
+        Given.text(x, 0, "gift 9000;");
         x.year();
         due("24 wed", x.wed(0), true);
         due("24 stands", x.match(0, 2), 2);
@@ -966,7 +920,7 @@ public final class PromiseTest {
         x.house(0, 1, 1000);
         x.person(0, 0, 0, 0);
         x.person(1, 1, 0, 0);
-        text(x, 0, "gift 67;back 50;");
+        Given.text(x, 0, "gift 67;back 50;");
         due("25 none", x.breaks(0, true), false);
         due("25 match -1", x.breaks(-1, false), false);
         x.ask(0, 1);
@@ -999,9 +953,9 @@ public final class PromiseTest {
     }
 
     private static void match() {
-        MatchBook x = couple();
-        years(x, 2);
-        text(x, 0, "gift 9;back 7;");
+        MatchBook x = Given.couple();
+        Given.years(x, 2);
+        Given.text(x, 0, "gift 9;back 7;");
         x.ask(0, 1);
         int[] want = {0, 1, 0, 9, 7, 0, 2, 2, 0};
         for (int what = 0; what < want.length; what++) {
@@ -1022,14 +976,14 @@ public final class PromiseTest {
     }
 
     private static void late() {
-        MatchBook x = houses(2);
+        MatchBook x = Given.houses(2);
         x.person(0, 0, 0, -20);
         x.person(1, 1, 0, -20);
         x.person(0, 0, 0, -20);
         x.person(1, 1, 0, -20);
         x.person(0, 0, 0, -60);
         x.road(2, 1, 3);
-        text(x, 1, "if kin<3:bar;");
+        Given.text(x, 1, "if kin<3:bar;");
         x.parent(0, 4, 1);
         x.parent(2, 4, 1);
         x.ask(0, 1);
@@ -1041,7 +995,7 @@ public final class PromiseTest {
         due("27 none", x.late(0), -1);
         x.parent(3, 4, 2);
         x.parent(1, 4, 0);
-        years(x, 2);
+        Given.years(x, 2);
         due("27 not heard yet", x.late(0), -1);
         due("27 match", x.match(1, 8), 0);
         x.year();
@@ -1064,18 +1018,18 @@ public final class PromiseTest {
     }
 
     private static void lateOfItsDay() {
-        MatchBook x = houses(3);
+        MatchBook x = Given.houses(3);
         x.person(0, 0, 0, -20);
         x.person(1, 1, 0, -20);
         x.person(2, 0, 0, -60);
         x.feud(0, 1, true);
-        text(x, 0, "gift 100;if feud and rich=950 and age<21 and kin<3:bar;");
+        Given.text(x, 0, "gift 100;if feud and rich=950 and age<21 and kin<3:bar;");
         x.ask(0, 1);
         x.promise(0);
         x.wed(0);
-        text(x, 0, "");
-        text(x, 1, "bar;");
-        years(x, 30);
+        Given.text(x, 0, "");
+        Given.text(x, 1, "bar;");
+        Given.years(x, 30);
         due("27 not by the texts of now", x.late(0), -1);
         x.parent(0, 2, 0);
         x.parent(1, 2, 0);
@@ -1088,13 +1042,13 @@ public final class PromiseTest {
     }
 
     private static void parts() {
-        MatchBook x = houses(4);
+        MatchBook x = Given.houses(4);
         x.person(0, 0, 0, -20);
         x.person(1, 1, 1, -20);
         x.person(2, 0, 1, -20);
         x.person(3, 1, 0, -20);
-        text(x, 5, "if star=0:more 5;");
-        text(x, 6, "if star=0:more 5;");
+        Given.text(x, 5, "if star=0:more 5;");
+        Given.text(x, 6, "if star=0:more 5;");
         x.ask(0, 1);
         due("28 one match alone", x.parts(0), -1);
         x.ask(2, 3);
@@ -1102,38 +1056,38 @@ public final class PromiseTest {
         due("28 second", x.parts(1), 201);
         due("28 no more", x.parts(2), -1);
         due("28 k -1", x.parts(-1), -1);
-        text(x, 3, "bar;");
+        Given.text(x, 3, "bar;");
         due("28 one is barred", x.parts(0), 201);
-        text(x, 3, "");
-        text(x, 6, "");
+        Given.text(x, 3, "");
+        Given.text(x, 6, "");
         due("28 no more liking on his side", x.parts(0), -1);
-        text(x, 6, "if star=0:more 5;");
-        text(x, 5, "");
+        Given.text(x, 6, "if star=0:more 5;");
+        Given.text(x, 5, "");
         due("28 no more liking on her side", x.parts(0), -1);
-        text(x, 5, "if star=0:more 1;");
+        Given.text(x, 5, "if star=0:more 1;");
         due("28 again", x.parts(0), 3);
         x.promise(0);
         due("28 promised ones, too", x.parts(1), 201);
         x.promise(1);
         x.wed(1);
         due("28 not with wed ones", x.parts(0), -1);
-        MatchBook y = houses(2);
+        MatchBook y = Given.houses(2);
         y.person(0, 0, 0, 0);
         y.person(1, 1, 1, 0);
         y.person(1, 0, 1, 0);
         y.person(0, 1, 0, 0);
-        text(y, 5, "if star=0:more 5;");
-        text(y, 6, "if star=0:more 5;");
+        Given.text(y, 5, "if star=0:more 5;");
+        Given.text(y, 6, "if star=0:more 5;");
         y.ask(0, 1);
         y.ask(2, 3);
         due("28 not in one house", y.parts(0), -1);
-        MatchBook z = houses(4);
+        MatchBook z = Given.houses(4);
         z.person(0, 1, 0, 0);
         z.person(1, 0, 0, 0);
         z.person(2, 1, 1, 0);
         z.person(3, 0, 1, 0);
-        text(z, 5, "if star=0:more 5;");
-        text(z, 6, "if star=0:more 5;");
+        Given.text(z, 5, "if star=0:more 5;");
+        Given.text(z, 6, "if star=0:more 5;");
         z.ask(1, 2);
         z.ask(3, 0);
         due("28 groom 0", z.parts(0), 100);
@@ -1141,14 +1095,14 @@ public final class PromiseTest {
     }
 
     private static void best() {
-        MatchBook x = houses(4);
+        MatchBook x = Given.houses(4);
         due("29 none", x.best(0), 0);
         x.person(0, 0, 0, 0);
         x.person(0, 0, 4, 0);
         x.person(1, 1, 0, 0);
         x.person(2, 1, 4, 0);
         x.person(0, 1, 0, 0);
-        text(x, 0, "gift 10;if star=4:gift 5;");
+        Given.text(x, 0, "gift 10;if star=4:gift 5;");
         due("29 weddings", x.best(0), 2);
         due("29 feuds", x.best(1), 0);
         due("29 gifts", x.best(2), 20);
@@ -1158,13 +1112,13 @@ public final class PromiseTest {
         due("29 what -1", x.best(-1), -1);
         x.die(1);
         due("29 one bride", x.best(0), 1);
-        text(x, 0, "bar;");
+        Given.text(x, 0, "bar;");
         due("29 barred", x.best(0), 0);
         due("29 no gifts", x.best(2), 0);
     }
 
     private static void bestOrder() {
-        MatchBook x = houses(4);
+        MatchBook x = Given.houses(4);
         x.person(0, 0, 0, 0);
         x.person(1, 0, 1, 0);
         x.person(2, 1, 0, 0);
@@ -1173,7 +1127,7 @@ public final class PromiseTest {
         due("29 least row", x.bestFor(0), 2);
         due("29 least row", x.bestFor(1), 3);
         // least gifts
-        text(x, 0, "if star=0:gift 50;");
+        Given.text(x, 0, "if star=0:gift 50;");
         due("29 gifts least", x.bestFor(0), 3);
         due("29 gifts", x.best(2), 0);
         // a feud is worth more than gifts
@@ -1182,7 +1136,7 @@ public final class PromiseTest {
         due("29 gifts then", x.best(2), 50);
         due("29 feuds", x.best(1), 1);
         // two weddings are worth more than a feud
-        text(x, 1, "if star=0:bar;");
+        Given.text(x, 1, "if star=0:bar;");
         due("29 one groom left to her", x.bestFor(1), 2);
         due("29 two weddings", x.best(0), 2);
         due("29 no feud", x.best(1), 0);
@@ -1192,13 +1146,13 @@ public final class PromiseTest {
         x.feud(0, 2, false);
         due("29 gifts decide", x.bestFor(1), 2);
         due("29 none for her", x.bestFor(0), -1);
-        text(x, 0, "");
+        Given.text(x, 0, "");
         due("29 the least row: a groom ahead of none", x.bestFor(0), 2);
         due("29 none for the other", x.bestFor(1), -1);
     }
 
     private static void bestFor() {
-        MatchBook x = couple();
+        MatchBook x = Given.couple();
         due("30 groom", x.bestFor(0), 1);
         due("30 bride", x.bestFor(1), 0);
         due("30 nobody", x.bestFor(2), -1);
@@ -1213,7 +1167,7 @@ public final class PromiseTest {
     }
 
     private static void stable() {
-        MatchBook x = houses(6);
+        MatchBook x = Given.houses(6);
         x.person(0, 0, 0, 0);
         x.person(1, 0, 4, 0);
         x.person(2, 1, 1, 0);
@@ -1223,37 +1177,37 @@ public final class PromiseTest {
         due("31 least", x.stable(1), 3);
         due("31 of a groom", x.stable(3), 1);
         // grooms like near stars, brides too
-        text(x, 6, "if star<2:more 5;");
-        text(x, 5, "if star=0:more 5;");
+        Given.text(x, 6, "if star<2:more 5;");
+        Given.text(x, 5, "if star=0:more 5;");
         due("31 she keeps the one she likes", x.stable(0), 3);
         due("31 he asks on", x.stable(2), 1);
         due("31 nobody", x.stable(4), -1);
         due("31 person -1", x.stable(-1), -1);
-        text(x, 1, "bar;");
+        Given.text(x, 1, "bar;");
         due("31 none is left to ask", x.stable(2), -1);
         due("31 none asks her", x.stable(1), -1);
         due("31 these stand", x.stable(0), 3);
         x.die(3);
         due("31 then the other", x.stable(0), 2);
         // grooms ask, so grooms have their wishes
-        MatchBook y = houses(4);
+        MatchBook y = Given.houses(4);
         y.person(0, 0, 0, 0);
         y.person(1, 0, 4, 0);
         y.person(2, 1, 0, 0);
         y.person(3, 1, 4, 0);
-        text(y, 6, "if star=0:more 1;");
-        text(y, 5, "if star=4:more 1;");
+        Given.text(y, 6, "if star=0:more 1;");
+        Given.text(y, 5, "if star=4:more 1;");
         due("31 by grooms", y.stable(0), 2);
         due("31 by grooms", y.stable(1), 3);
         // less than nothing is still asked
-        text(y, 6, "less 50;if star=0:less 1;");
-        text(y, 5, "less 50;");
+        Given.text(y, 6, "less 50;if star=0:less 1;");
+        Given.text(y, 5, "less 50;");
         due("31 disliked", y.stable(2), 1);
         due("31 disliked", y.stable(3), 0);
     }
 
     private static void ring() {
-        MatchBook x = houses(4);
+        MatchBook x = Given.houses(4);
         due("32 none", x.ring(0), -1);
         due("32 none, gifts", x.ring(1), -1);
         for (int h = 0; h < 3; h++) {
@@ -1264,10 +1218,10 @@ public final class PromiseTest {
         due("32 no gifts", x.ring(1), 0);
         due("32 another what", x.ring(2), -1);
         due("32 what -1", x.ring(-1), -1);
-        text(x, 0, "gift 10;");
+        Given.text(x, 0, "gift 10;");
         due("32 more gifts", x.ring(1), 20);
         due("32 fewest houses", x.ring(0), 2);
-        text(x, 2, "gift 9;");
+        Given.text(x, 2, "gift 9;");
         due("32 three houses", x.ring(0), 3);
         due("32 gifts of three", x.ring(1), 29);
         x.person(3, 0, 0, 0);
@@ -1281,7 +1235,7 @@ public final class PromiseTest {
     }
 
     private static void ringed() {
-        MatchBook x = houses(4);
+        MatchBook x = Given.houses(4);
         for (int h = 3; h >= 1; h--) {
             x.person(h, 0, h, 0);
             x.person(h, 0, 0, 0);
@@ -1296,13 +1250,13 @@ public final class PromiseTest {
         due("33 the least groom", x.ringed(0, 2), 6);
         due("33 her of the last", x.ringed(1, 1), 4);
         due("33 his of the first", x.ringed(1, 2), 10);
-        text(x, 3, "if star=0:gift 7;");
+        Given.text(x, 3, "if star=0:gift 7;");
         due("33 now 1 and 3", x.ringed(1, 0), 3);
         due("33 the greatest gift", x.ringed(0, 1), 9);
         due("33 his", x.ringed(0, 2), 2);
         due("33 the greatest gift", x.ringed(1, 1), 1);
         due("33 his", x.ringed(1, 2), 10);
-        text(x, 2, "gift 4;");
+        Given.text(x, 2, "gift 4;");
         due("33 by 2 and 3", x.ring(1), 7 + 7 + 4);
         due("33 three", x.ring(0), 3);
         due("33 the least row", x.ringed(0, 0), 1);
@@ -1312,12 +1266,12 @@ public final class PromiseTest {
         due("33 k 4", x.ringed(4, 0), -1);
         due("33 another what", x.ringed(0, 3), -1);
         due("33 what -1", x.ringed(0, -1), -1);
-        MatchBook y = houses(2);
+        MatchBook y = Given.houses(2);
         due("33 there is none", y.ringed(0, 0), -1);
     }
 
     private static void firstEight() {
-        MatchBook x = houses(2);
+        MatchBook x = Given.houses(2);
         for (int k = 0; k < 10; k++) {
             x.person(0, 0, 0, 0);
         }
@@ -1337,7 +1291,7 @@ public final class PromiseTest {
     }
 
     private static void count() {
-        MatchBook x = houses(3);
+        MatchBook x = Given.houses(3);
         x.person(0, 0, 0, -30);
         x.person(1, 1, 0, -20);
         x.person(0, 0, 0, -20);
@@ -1345,7 +1299,7 @@ public final class PromiseTest {
         x.person(1, 1, 0, -20);
         x.parent(2, 0, 0);
         x.feud(0, 2, true);
-        years(x, 4);
+        Given.years(x, 4);
         x.ask(0, 1);
         x.promise(0);
         x.wed(0);
@@ -1362,7 +1316,7 @@ public final class PromiseTest {
     }
 
     private static void image() {
-        MatchBook x = couple();
+        MatchBook x = Given.couple();
         due("35 image 0", x.image(0), true);
         due("35 image 2", x.image(2), true);
         due("35 image 3", x.image(3), false);
@@ -1378,22 +1332,22 @@ public final class PromiseTest {
     }
 
     private static void again() {
-        MatchBook x = couple();
+        MatchBook x = Given.couple();
         due("36 none", x.again(0), false);
         due("36 k 3", x.again(3), false);
         due("36 k -1", x.again(-1), false);
         x.person(0, 0, 0, -70);
-        text(x, 0, "gift 20;");
-        text(x, 5, "more 4;");
-        text(x, 1, "bar");
+        Given.text(x, 0, "gift 20;");
+        Given.text(x, 5, "more 4;");
+        Given.text(x, 1, "bar");
         x.road(0, 1, 5);
         x.parent(0, 2, 0);
         x.ask(0, 1);
         Check.write(x, "bar;gift 3;");
         x.image(1);
         x.text(1);
-        text(x, 0, "bar;");
-        text(x, 5, "");
+        Given.text(x, 0, "bar;");
+        Given.text(x, 5, "");
         x.road(0, 1, 1);
         x.parent(1, 2, 0);
         x.promise(0);
@@ -1427,88 +1381,27 @@ public final class PromiseTest {
         due("36 the tape again", x.end(11), 11);
     }
 
-    /** Two books with nothing alike, in turn. */
-    private static MatchBook fill(MatchBook x, int by) {
-        for (int h = 0; h < 4; h++) {
-            x.house((h + by) % 6, (h + by) % 5, 1000 + 100 * by + h);
-        }
-        for (int p = 0; p < 8; p++) {
-            x.person((p + by) % 4, (p / 2 + by) % 2, (p + by) % 8, -40 + p + by);
-        }
-        text(x, by % 5, "gift " + (10 * by + 10) + ";back " + (20 + by) + ";if bride<50 and kin<9:bar;");
-        years(x, by);
-        for (int b = 0; b < 8; b++) {
-            for (int g = 0; g < 8; g++) {
-                int m = x.ask(b, g);
-                x.promise(m);
-                if (m == by) {
-                    x.wed(m);
-                }
-            }
-        }
-        x.parent(7 - by, by, by);
-        return x;
-    }
-
-    private static int[] seen(MatchBook x) {
-        int[] row = new int[200];
-        int n = 0;
-        for (int h = 0; h < 4; h++) {
-            for (int what = 0; what < 5; what++) row[n++] = x.about(h, what);
-        }
-        for (int p = 0; p < 8; p++) {
-            for (int what = 0; what < 10; what++) row[n++] = x.tell(p, what);
-        }
-        for (int m = 0; m < 4; m++) {
-            for (int what = 0; what < 9; what++) row[n++] = x.match(m, what);
-        }
-        for (int what = 0; what < 12; what++) row[n++] = x.count(what);
-        for (int v = 0; v < 5; v++) {
-            row[n++] = x.heard(0, v);
-            row[n++] = x.kin(7, 0, v, 300);
-            row[n++] = x.kin(6, 1, v, 300);
-        }
-        return row;
-    }
-
     private static void againToAnother() {
-        int[][] want = {seen(fill(new MatchBook(), 0)), seen(fill(new MatchBook(), 1))};
-        MatchBook x = new MatchBook();
-        x.image(2);
-        fill(x, 0);
-        x.image(0);
-        x.again(2);
-        fill(x, 1);
-        x.image(1);
-        for (int turn = 0; turn < 4; turn++) {
-            x.again(turn % 2);
-            int[] got = seen(x);
-            for (int k = 0; k < got.length; k++) {
-                due("36 turn " + turn + ", number " + k, got[k], want[turn % 2][k]);
-            }
-        }
-        x.again(2);
-        due("36 nothing", x.count(0), 0);
         // kin that was heard before is not heard any more
-        MatchBook y = family();
+        MatchBook y = Given.family();
         y.image(0);
         y.parent(2, 0, 0);
         due("36 kin", y.kin(2, 0, 0, 0), 1);
         y.again(0);
         due("36 no kin", y.kin(2, 0, 0, 0), 99);
         // a wedding's day goes with the image
-        MatchBook z = couple();
+        MatchBook z = Given.couple();
         z.person(0, 0, 0, -20);
         z.person(1, 1, 0, -30);
         z.person(0, 0, 0, -60);
         z.image(0);
-        text(z, 0, "if age=25 and kin<3:bar;");
+        Given.text(z, 0, "if age=25 and kin<3:bar;");
         z.ask(0, 1);
         z.promise(0);
         z.wed(0);
         z.image(1);
         z.again(0);
-        text(z, 0, "if age=99:bar;");
+        Given.text(z, 0, "if age=99:bar;");
         z.ask(2, 3);
         z.promise(0);
         z.wed(0);
@@ -1519,12 +1412,12 @@ public final class PromiseTest {
     }
 
     private static void againToHisDay() {
-        MatchBook x = couple();
+        MatchBook x = Given.couple();
         x.person(0, 0, 0, -20);
         x.person(1, 1, 0, -30);
         x.person(0, 0, 0, -60);
         x.image(0);
-        text(x, 1, "if kin<3:bar;");
+        Given.text(x, 1, "if kin<3:bar;");
         x.ask(0, 1);
         x.promise(0);
         x.wed(0);
@@ -1556,7 +1449,7 @@ public final class PromiseTest {
         x.person(0, 0, 0, 0);
         x.person(1, 1, 0, 0);
         x.person(0, 0, 0, 0);
-        text(x, 0, "gift 10;");
+        Given.text(x, 0, "gift 10;");
         x.ask(0, 1);
         x.promise(0);
         x.wed(0);
@@ -1571,8 +1464,8 @@ public final class PromiseTest {
         due("36 no widow", x.tell(0, 7), 0);
         due("36 alive", x.tell(1, 5), 1);
         due("36 free", x.tell(0, 9), 1);
-        due("36 never wed: an elder", holds(x, 2, 1, "elder"), 1);
-        text(x, 0, "");
+        due("36 never wed: an elder", Given.holds(x, 2, 1, "elder"), 1);
+        Given.text(x, 0, "");
         x.ask(0, 1);
         due("36 nothing paid", x.match(0, 5), 0);
         due("36 no gift", x.match(0, 3), 0);
