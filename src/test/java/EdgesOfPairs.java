@@ -286,6 +286,7 @@ final class EdgesOfPairs {
         Given.text(y, 5, "if star=1:more 1;");
         edge.due("the greatest number, but more liked", y.stable(0), 3);
         sentAway();
+        longAsking();
         // Grooms are sent away one after the other: a later one takes her from an earlier one.
         MatchBook z = four();
         Given.text(z, 6, "if bride=0:more 1;");
@@ -313,6 +314,35 @@ final class EdgesOfPairs {
         edge.due("2 has none", x.stable(2), -1);
         Given.text(x, 5, "if age=5:more 2;if star=3:more 1;");
         edge.due("1 likes 2 more by one", x.stable(1), 2);
+    }
+
+    /** Wishes by which most grooms are sent away again and again: 47 rounds of asking. */
+    private void longAsking() {
+        edge.says("Terms 4", "what stands when none has whom to ask.");
+        MatchBook x = Given.houses(2);
+        for (int k = 0; k < 8; k++) {
+            x.person(0, 0, 0, -k);
+        }
+        for (int k = 0; k < 8; k++) {
+            x.person(1, 1, 0, -k);
+        }
+        edge.due("wish of brides", Given.text(x, 5, ""
+                + "if bride=7and age<6:more 9;if bride>0and age=3:less 2;if bride=5and age=0:more 8;if bride>5and age=1:more 4;"
+                + "if bride=2and age=1:more 9;if bride>2and age>1:more 6;if bride<2and age>2:more 5;if bride=0and age=4:less 4;"
+                + "if bride=6and age<4:more 8;if bride<7and age=4:less 9;if bride<1and age<6:less 4;if bride>5and age>2:more 4;"
+                + "if bride>0and age>6:less 1;if bride>7and age>7:more 6;if bride>2and age>7:less 2;if bride<2and age=7:more 4;"),
+                16);
+        edge.due("wish of grooms", Given.text(x, 6, ""
+                + "if bride=4and age>0:less 5;if bride=4and age=0:less 8;if bride>5and age<2:more 7;if bride>7and age>6:more 8;"
+                + "if bride>2and age=5:more 8;if bride<1and age>5:less 3;if bride<0and age<5:less 3;if bride>6and age=3:more 3;"
+                + "if bride<4and age=2:less 6;if bride=0and age>7:less 5;if bride<3and age<1:more 8;if bride<2and age>6:less 4;"
+                + "if bride<2and age<1:less 4;if bride=4and age>3:less 7;if bride>3and age=2:less 1;if bride>2and age=1:more 1;"),
+                16);
+        int[] grooms = {6, 7, 1, 2, 5, 0, 3, 4};
+        for (int bride = 0; bride < 8; bride++) {
+            edge.due("with bride " + bride, x.stable(bride), 8 + grooms[bride]);
+            edge.due("with groom " + (8 + grooms[bride]), x.stable(8 + grooms[bride]), bride);
+        }
     }
 
     /** House h has a bride of star h and a groom whose star is that of the house ahead; all others are barred. */
