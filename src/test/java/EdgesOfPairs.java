@@ -793,9 +793,9 @@ final class EdgesOfPairs {
         // A wedding that is not late, so that nothing of the others' days is left where it stands.
         x.house(0, 0, 0);
         x.house(0, 0, 0);
-        Given.persons(x, 0, 0, 1);
         Given.persons(x, 1, 1, 1);
-        Given.wedding(x, 0, 1);
+        Given.persons(x, 0, 0, 1);
+        Given.wedding(x, 1, 0);
         for (int which = 0; which < 2; which++) {
             x.again(which);
             int[] got = Sight.of(x);
