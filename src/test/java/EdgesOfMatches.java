@@ -379,6 +379,8 @@ final class EdgesOfMatches {
         partsAre("more liking of hers by one", x, 3, 201);
         Given.text(x, 6, "if star=0:more 1;if star>0:more 1;");
         partsAre("as much liking of his", x);
+        Given.text(x, 6, "if star=0:more 1;if star>0:more 2;");
+        partsAre("less liking of his", x);
         Given.text(x, 6, "if star>0:less 1;");
         partsAre("less is more than still less", x, 3, 201);
         x.breaks(0, false);

@@ -154,6 +154,7 @@ final class EdgesOfPairs {
         fewerThanBefore();
         feudsOfOnePair();
         mostOfAll();
+        oneOutweighsAll();
     }
 
     private void noneIsLast() {
@@ -240,6 +241,39 @@ final class EdgesOfPairs {
         for (int k = 0; k < 8; k++) {
             edge.due("bride " + k, y.bestFor(k), 15 - k);
         }
+    }
+
+    private void oneOutweighsAll() {
+        MatchBook x = neighbours("if gap>1:bar;");
+        x.feud(1, 2, true);
+        x.feud(0, 3, true);
+        bestIs("a wedding more ahead of seven feuds and all gifts", x, 8, 0, 8 * 159984);
+        x.die(0);
+        bestIs("none more without her", x, 7, 7, 0);
+        MatchBook y = neighbours("if gap>1 and not gap=15:bar;");
+        bestIs("in a ring, without a feud", y, 8, 0, 0);
+        edge.due("the first with the last", y.bestFor(0), 15);
+        y.feud(4, 2, true);
+        bestIs("a feud ahead of all gifts", y, 8, 1, 8 * 159984);
+        edge.due("the first with the first", y.bestFor(0), 8);
+    }
+
+    /** Bride k may wed groom 8 + k, of her clan, for the greatest gift, and the one ahead of him, of another clan, for none. */
+    private static MatchBook neighbours(String bar) {
+        MatchBook x = new MatchBook();
+        for (int h = 0; h < 4; h++) {
+            x.house(h % 2, h / 2, 0);
+        }
+        x.house(0, 0, 0);
+        for (int k = 0; k < 8; k++) {
+            x.person(k == 0 ? 4 : k % 2, 0, 0, -2 * k);
+        }
+        for (int k = 0; k < 8; k++) {
+            x.person(2 + k % 2, 1, 0, -2 * k - 1);
+        }
+        Given.text(x, 0, bar);
+        Given.text(x, 1, "if clan:gift 9999;".repeat(16));
+        return x;
     }
 
     private void stableAsking() {

@@ -681,6 +681,27 @@ final class EdgesOfTexts {
         Given.text(x, 2, "bar;");
         Given.text(x, 3, "bar;");
         edge.due("barred by others alone", x.may(0, 3), true);
+        mayWedAsHeard();
+    }
+
+    /** Bride 0 and groom 1 are of one mother, 2; each village bars by what is heard there alone. */
+    private void mayWedAsHeard() {
+        for (int told = 0; told < 2; told++) {
+            MatchBook x = Given.couple();
+            x.person(0, 0, 0, -60);
+            x.parent(0, 2, told);
+            x.parent(1, 2, told);
+            for (int bars = 0; bars < 2; bars++) {
+                Given.text(x, bars, "if kin=2:bar;");
+                Given.text(x, 1 - bars, "");
+                edge.due("told in village " + told + ", barred there in " + bars, x.may(0, 1), told != bars);
+            }
+            Given.text(x, 0, "if kin=99:bar;");
+            edge.due("told in " + told + ", none heard with her", x.may(0, 1), told == 0);
+            Given.text(x, 0, "");
+            Given.text(x, 1, "if kin=99:bar;");
+            edge.due("told in " + told + ", none heard with him", x.may(0, 1), told == 1);
+        }
     }
 
     private void giftOfBoth() {

@@ -26,6 +26,7 @@ public final class FaceTest {
 
     public static void main(String[] args) throws Exception {
         face();
+        faceOfDocument();
         classes();
         source();
         check.finish();
@@ -64,6 +65,21 @@ public final class FaceTest {
         }
         check.due("constructors", MatchBook.class.getDeclaredConstructors().length, 1);
         check.due("final", Modifier.isFinal(MatchBook.class.getModifiers()), true);
+    }
+
+    /** The face that is tested here is that of the document, and no older one. */
+    private static void faceOfDocument() throws Exception {
+        String document = Files.readString(Path.of("../shared/DOC.md"));
+        int from = document.indexOf("## The public face");
+        String block = document.substring(from, document.indexOf("## Terms", from));
+        Set<String> told = new TreeSet<>();
+        Matcher lines = Pattern.compile("public (int|boolean) (\\w+)\\(([^)]*)\\);").matcher(block);
+        while (lines.find()) {
+            String types = lines.group(3).replaceAll("(int|boolean) \\w+", "$1").replace(", ", ",");
+            told.add(lines.group(1) + " " + lines.group(2) + "(" + types + ")");
+        }
+        check.due("face of the document " + told, told.equals(new TreeSet<>(Arrays.asList(FACE.split("; ")))), true);
+        check.due("NONE of the document", block.contains("NONE = " + MatchBook.NONE + ";"), true);
     }
 
     private static List<Class<?>> all() {

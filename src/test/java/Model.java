@@ -743,50 +743,52 @@ final class Model {
                 }
             }
         }
-        best = null;
-        bestScore = null;
-        tryAll(brides, grooms, new int[brides.size()], 0, new int[3], new Object[] {may, feud, cost});
+        whole = bestFrom(brides, grooms, 0, Set.of(), new Object[] {may, feud, cost}, new HashMap<>());
         Map<Integer, Integer> out = new TreeMap<>();
         for (int k = 0; k < brides.size(); k++) {
-            out.put(brides.get(k), best[k]);
+            out.put(brides.get(k), whole[3 + k]);
         }
         return out;
     }
 
-    private int[] best;
-    private int[] bestScore;
+    /** The best way as a row that is least: weddings and feuds (both below 0), gifts, and the grooms by brides. */
+    private int[] whole;
 
-    private void tryAll(List<Integer> brides, List<Integer> grooms, int[] row, int at, int[] score, Object[] tables) {
-        if (at == brides.size()) {
-            int[] whole = Arrays.copyOf(score, 3 + row.length);
-            System.arraycopy(row, 0, whole, 3, row.length);
-            if (bestScore == null || Arrays.compare(whole, bestScore) < 0) {
-                bestScore = whole;
-                best = row.clone();
-            }
-            return;
-        }
+    /** Of the brides from one on, with the grooms that are left: what is best for them does not hang on who took the rest. */
+    private int[] bestFrom(List<Integer> brides, List<Integer> grooms, int at, Set<Integer> taken, Object[] tables,
+            Map<List<Object>, int[]> known) {
+        if (at == brides.size()) return new int[3];
+        List<Object> key = List.of(at, taken);
+        if (known.containsKey(key)) return known.get(key);
         int b = brides.get(at);
-        row[at] = 99;
-        tryAll(brides, grooms, row, at + 1, score, tables);
+        int[] least = joined(99, new int[3], bestFrom(brides, grooms, at + 1, taken, tables, known));
         for (int g : grooms) {
-            boolean used = false;
-            for (int k = 0; k < at; k++) {
-                used |= row[k] == g;
-            }
-            if (!used && ((boolean[][]) tables[0])[b][g]) {
-                row[at] = g;
-                int fewer = ((boolean[][]) tables[1])[b][g] ? 1 : 0;
-                int[] then = {score[0] - 1, score[1] - fewer, score[2] + ((int[][]) tables[2])[b][g]};
-                tryAll(brides, grooms, row, at + 1, then, tables);
+            if (!taken.contains(g) && ((boolean[][]) tables[0])[b][g]) {
+                Set<Integer> then = new HashSet<>(taken);
+                then.add(g);
+                int[] adds = {-1, ((boolean[][]) tables[1])[b][g] ? -1 : 0, ((int[][]) tables[2])[b][g]};
+                int[] way = joined(g, adds, bestFrom(brides, grooms, at + 1, then, tables, known));
+                if (Arrays.compare(way, least) < 0) least = way;
             }
         }
+        known.put(key, least);
+        return least;
+    }
+
+    private static int[] joined(int groom, int[] adds, int[] rest) {
+        int[] row = new int[rest.length + 1];
+        for (int k = 0; k < 3; k++) {
+            row[k] = adds[k] + rest[k];
+        }
+        row[3] = groom;
+        System.arraycopy(rest, 3, row, 4, rest.length - 3);
+        return row;
     }
 
     private long best(int what) {
         if (!among(what, 0, 2)) return -1;
         bestRow();
-        return new int[] {-bestScore[0], -bestScore[1], bestScore[2]}[what];
+        return new int[] {-whole[0], -whole[1], whole[2]}[what];
     }
 
     private long partner(Map<Integer, Integer> row, int p) {
@@ -915,10 +917,5 @@ final class Model {
             case 11: return lates().size();
             default: return -100;
         }
-    }
-
-    /** How many free persons of a kind are looked at: tells a test how dear the search for BEST will be. */
-    int freeSide(int kind) {
-        return firstFree(kind).size();
     }
 }

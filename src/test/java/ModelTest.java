@@ -179,7 +179,7 @@ public final class ModelTest {
         int persons = book.count(1);
         int luck = some(10);
         if (mode == FREE) {
-            if (luck < 4) tryBest();
+            if (luck < 4) askBest();
             else if (luck < 6) call("stable", near(persons));
             else if (luck < 7) call("ring", near(2));
             else if (luck < 8) call("ringed", near(4), near(3));
@@ -234,7 +234,7 @@ public final class ModelTest {
         else if (luck < 71) call("match", near(matches), near(9));
         else if (luck < 73) call("late", near(3));
         else if (luck < 76) call("parts", near(4));
-        else if (luck < 80) tryBest();
+        else if (luck < 80) askBest();
         else if (luck < 84) call("stable", near(persons));
         else if (luck < 86) call("ring", near(2));
         else if (luck < 90) call("ringed", near(4), near(3));
@@ -293,12 +293,7 @@ public final class ModelTest {
         }
     }
 
-    /** The model tries all ways: too dear for many on both sides, but now and then. */
-    private void tryBest() {
-        int sides = Math.min(model.freeSide(0), model.freeSide(1)) + Math.max(model.freeSide(0), model.freeSide(1));
-        if (sides > 13 || sides > 11 && some(10) != 0) {
-            return;
-        }
+    private void askBest() {
         if (some(3) == 0) call("best", near(3));
         else call("bestFor", near(book.count(1)));
     }
