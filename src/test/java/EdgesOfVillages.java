@@ -396,6 +396,22 @@ final class EdgesOfVillages {
         y.parent(4, 3, 0);
         edge.due("the fewest", y.kin(4, 3, 0, 0), 1);
         edge.due("a child of both joins no others", y.kin(2, 6, 0, 0), 99);
+        fartherBehindNearer();
+    }
+
+    /** Forebear 1 is farther from both than her child 0, and has the greater number. */
+    private void fartherBehindNearer() {
+        MatchBook x = Given.houses(1);
+        x.person(0, 0, 0, -40);
+        x.person(0, 0, 0, -60);
+        x.person(0, 0, 0, -20);
+        x.person(0, 1, 0, -20);
+        x.parent(0, 1, 0);
+        x.parent(2, 0, 0);
+        x.parent(3, 0, 0);
+        edge.due("siblings below a grandmother", x.kin(2, 3, 0, 0), 2);
+        edge.due("their chain goes by their mother", x.chain(2, 3, 0, 0, 1), 0);
+        edge.due("a child and its mother", x.kin(2, 0, 0, 0), 1);
     }
 
     private void chainRow() {
